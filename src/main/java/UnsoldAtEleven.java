@@ -180,7 +180,7 @@ public final class UnsoldAtEleven {
             return refusal;
         }
         plan.choose(town, corners / 10, corners % 10, kind);
-        plan.reckon(papers / 100 + papers % 100 + van, t);
+        plan.reckon(papers / 100 + papers % 100, van, t);
         return fraction(plan.bestOf(papers / 100, papers % 100, van), plan.whole(), upper);
     }
 
@@ -190,7 +190,7 @@ public final class UnsoldAtEleven {
             return refusal;
         }
         plan.choose(town, corners / 10, corners % 10, kind);
-        plan.reckon(papers / 100 + papers % 100 + van, t);
+        plan.reckon(papers / 100 + papers % 100, van, t);
         return plan.firstMove(papers / 100, papers % 100, van);
     }
 
@@ -739,7 +739,6 @@ public final class UnsoldAtEleven {
         private long whole = 1;
 
         void reckon(Town town) {
-            Arrays.fill(sold, 0);
             Arrays.fill(out, 0);
             whole = 0;
             for (int kind = 0; kind < KINDS; kind++) {
@@ -781,6 +780,7 @@ public final class UnsoldAtEleven {
             for (int g = MOST_PAPERS - 1; g >= 0; g--) {
                 out[first + g] += out[first + g + 1];
             }
+            sold[first] = 0;
             for (int g = 1; g <= MOST_PAPERS; g++) {
                 sold[first + g] = sold[first + g - 1] + out[first + g - 1];
             }
@@ -1001,33 +1001,33 @@ public final class UnsoldAtEleven {
             return whole;
         }
 
-        void reckon(int papers, int t) {
+        void reckon(int atCorners, int inVan, int t) {
             Arrays.fill(ahead, 0);
             Arrays.fill(behind, 0);
             whole = 1;
             for (int left = 1; left <= t; left++) {
                 if (left > 1) {
-                    fillAhead(papers);
+                    fillAhead(atCorners + inVan, inVan);
                 }
-                fillBehind(papers);
+                fillBehind(atCorners + inVan, inVan);
                 whole *= 100;
             }
         }
 
-        private void fillAhead(int papers) {
+        private void fillAhead(int papers, int inVan) {
             for (int one = 0; one <= papers; one++) {
                 for (int other = 0; one + other <= papers; other++) {
-                    for (int van = 0; one + other + van <= papers; van++) {
+                    for (int van = 0; van <= inVan && one + other + van <= papers; van++) {
                         ahead[cell(one, other, van)] = bestOf(one, other, van);
                     }
                 }
             }
         }
 
-        private void fillBehind(int papers) {
+        private void fillBehind(int papers, int inVan) {
             for (int one = 0; one <= papers; one++) {
                 for (int other = 0; one + other <= papers; other++) {
-                    for (int van = 0; one + other + van <= papers; van++) {
+                    for (int van = 0; van <= inVan && one + other + van <= papers; van++) {
                         behind[cell(one, other, van)] = mean(one, other, van);
                     }
                 }
