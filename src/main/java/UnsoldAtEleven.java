@@ -370,6 +370,11 @@ public final class UnsoldAtEleven {
 
     // ---- what several calls share
 
+    /** Rows are made for the most corners, however many the town has. */
+    private static boolean isRow(int corner) {
+        return corner >= 0 && corner < CORNERS;
+    }
+
     private static boolean isKind(int kind) {
         return kind >= 0 && kind < KINDS;
     }
@@ -755,9 +760,9 @@ public final class UnsoldAtEleven {
         private void addKind(int corner, int b, int x, int share) {
             reckonChances(x);
             for (int extra = 0; extra <= HALF_HOURS; extra++) {
-                int wants = HALF_HOURS * b + extra;
-                if (wants >= 1 && wants <= MOST_PAPERS) {
-                    out[corner * ROW + wants - 1] += chances[extra] * share;
+                int oneLess = HALF_HOURS * b + extra - 1;
+                if (holds(corner, oneLess)) {
+                    out[corner * ROW + oneLess] += chances[extra] * share;
                 }
             }
         }
@@ -776,6 +781,9 @@ public final class UnsoldAtEleven {
 
         /** Of the chances that just so many come to those that more come, and from these to what is sold. */
         private void sumUp(int corner) {
+            if (!isRow(corner)) {
+                return;
+            }
             int first = corner * ROW;
             for (int g = MOST_PAPERS - 1; g >= 0; g--) {
                 out[first + g] += out[first + g + 1];
@@ -791,7 +799,7 @@ public final class UnsoldAtEleven {
         }
 
         private boolean holds(int corner, int g) {
-            return corner >= 0 && corner < CORNERS && isPapers(g);
+            return isRow(corner) && isPapers(g);
         }
 
         long soldOf(int corner, int g) {
@@ -805,7 +813,7 @@ public final class UnsoldAtEleven {
         int givenTo(Town town, int p, int corner) {
             giveNone();
             giveAll(town, p, NONE);
-            return corner >= 0 && corner < CORNERS ? given[corner] : 0;
+            return isRow(corner) ? given[corner] : 0;
         }
 
         long earnedBy(Town town, int p) {
@@ -816,7 +824,7 @@ public final class UnsoldAtEleven {
 
         long earnedWithNephew(Town town, int p, int corner, int n) {
             giveNone();
-            if (corner >= 0 && corner < CORNERS) {
+            if (isRow(corner)) {
                 given[corner] = n;
             }
             giveAll(town, p - n, corner);
@@ -851,11 +859,11 @@ public final class UnsoldAtEleven {
         private void giveOne(Town town, int but) {
             int to = NONE;
             for (int corner = 0; corner < town.corners && corner < CORNERS; corner++) {
-                if (corner != but && (to == NONE || outOf(corner, given[corner]) > outOf(to, given[to]))) {
+                if (corner != but && (!isRow(to) || outOf(corner, given[corner]) > outOf(to, given[to]))) {
                     to = corner;
                 }
             }
-            if (to != NONE) {
+            if (isRow(to)) {
                 given[to]++;
             }
         }
@@ -1139,10 +1147,6 @@ public final class UnsoldAtEleven {
             }
         }
 
-        private static boolean isRow(int corner) {
-            return corner >= 0 && corner < CORNERS;
-        }
-
         int givesAt(int corner) {
             return isRow(corner) ? gives[corner] : 0;
         }
@@ -1249,10 +1253,10 @@ public final class UnsoldAtEleven {
         }
 
         private void go(Town town, Morning told) {
-            corners = Math.min(town.corners, CORNERS);
+            corners = town.corners;
             van = told.van;
             home = 0;
-            for (int corner = 0; corner < corners; corner++) {
+            for (int corner = 0; corner < corners && corner < CORNERS; corner++) {
                 has[corner] = told.givesAt(corner);
                 sold[corner] = 0;
             }
@@ -1276,7 +1280,7 @@ public final class UnsoldAtEleven {
 
         private void giveByRule(Morning told, int halfHour) {
             if (told.rule == Morning.RING && halfHour > 0) {
-                for (int corner = 0; corner < corners; corner++) {
+                for (int corner = 0; corner < corners && corner < CORNERS; corner++) {
                     if (has[corner] == 0) {
                         giveFromVan(corner, told.ruleNumber);
                     }
@@ -1291,7 +1295,7 @@ public final class UnsoldAtEleven {
         }
 
         private void giveFromVan(int corner, int papers) {
-            if (corner >= 0 && corner < CORNERS) {
+            if (isRow(corner)) {
                 int some = Math.min(papers, van);
                 has[corner] += some;
                 van -= some;
@@ -1299,12 +1303,15 @@ public final class UnsoldAtEleven {
         }
 
         private void giveSecond(int halfHour) {
-            if (halfHour == secondHour && secondCorner >= 0 && secondCorner < CORNERS) {
+            if (halfHour == secondHour && isRow(secondCorner)) {
                 has[secondCorner] += secondPapers;
             }
         }
 
         private void sell(Town town, Morning told, int corner, int halfHour) {
+            if (!isRow(corner)) {
+                return;
+            }
             int come = told.comeByHabit(corner, town.comesTo(corner, told.kind)) + comeOn(town, corner, halfHour);
             if (corner == crier || told.isMoreTold(corner, halfHour)) {
                 come++;
@@ -1363,7 +1370,7 @@ public final class UnsoldAtEleven {
 
         int soldInAll() {
             int sum = 0;
-            for (int corner = 0; corner < corners; corner++) {
+            for (int corner = 0; corner < corners && corner < CORNERS; corner++) {
                 sum += sold[corner];
             }
             return sum;
@@ -1371,7 +1378,7 @@ public final class UnsoldAtEleven {
 
         int leftAtCorners() {
             int sum = 0;
-            for (int corner = 0; corner < corners; corner++) {
+            for (int corner = 0; corner < corners && corner < CORNERS; corner++) {
                 sum += has[corner];
             }
             return sum;
